@@ -149,9 +149,12 @@ final class FirstPartTest {
     C.due("figures up to nine", Checks.tell(x, "f5999;h02;"), 2);
     C.due("DOOR of 3", x.friendOf(3, 2), 99);
     C.due("gift 0 is with", x.giftOf(0, 2), 2);
+    C.due("the least door, the least span", Checks.tell(x, "d301;m01;"), 2);
+    C.due("DOOR of 3", x.friendOf(3, 2), 1);
+    C.due("MONTH", x.count(2), 1);
     C.due("a fault", Checks.tell(x, "h00;m60;f0140;n00;"), -2014);
     C.due("nothing came: gift 0 is with", x.giftOf(0, 2), 2);
-    C.due("nothing came: MONTH", x.count(2), 0);
+    C.due("nothing came: MONTH", x.count(2), 1);
     C.due("nothing came: friends", x.count(0), 4);
   }
 

@@ -123,28 +123,26 @@ final class InMindTest {
     x.doors(1, 7);
     C.due("never given", x.given(0, 0), -9);
     C.due("staying is no round", x.given(0, 1), -9);
+    x = ringOfPolishers(5);
+    C.due("GIVEN, the longest", x.given(0, 0), 12);
+    C.due("ROUND of 60", x.given(0, 1), 60);
+    C.due("ROUND of 72", ringOfPolishers(6).given(0, 1), -9);
   }
 
-  private static void promise15AtTheEnd(int roundBehind, int want) {
+  /** Who keep it for 12 months each. */
+  private static PassedOnAndBetter ringOfPolishers(int many) {
     PassedOnAndBetter x = new PassedOnAndBetter();
-    int ofRing = roundBehind / 12;
-    for (int i = 0; i < ofRing; i++) {
+    for (int i = 0; i < many; i++) {
       x.friend(1, 0, 40);
     }
-    int last = x.friend(5, 0, 40);
-    for (int i = 0; i < last; i++) {
-      x.nexts(i, i + 1);
+    for (int i = 0; i < many; i++) {
+      x.nexts(i, (i + 1) % many);
     }
-    x.nexts(last, 0);
     x.gift(0, 5, 8);
-    x.months(1);
-    x.hands(0, 0);
-    C.due("ROUND of " + roundBehind, x.given(0, 1), want);
+    return x;
   }
 
   private static void promise16Comes() {
-    promise15AtTheEnd(49, 49);
-    promise15AtTheEnd(61, -9);
     PassedOnAndBetter x = ring();
     C.due("with him now", x.comes(0, 0), 0);
     C.due("with 1", x.comes(0, 1), 1);
@@ -154,14 +152,7 @@ final class InMindTest {
     C.due("no gift", x.comes(1, 0), -1);
     C.due("nobody", x.comes(0, 3), -1);
     C.due("nobody", x.comes(0, -1), -1);
-    x = new PassedOnAndBetter();
-    for (int i = 0; i < 6; i++) {
-      x.friend(1, 0, 40);
-    }
-    for (int i = 0; i < 5; i++) {
-      x.nexts(i, i + 1);
-    }
-    x.gift(0, 5, 8);
+    x = ringOfPolishers(6);
     C.due("behind 60", x.comes(0, 5), 60);
     C.due("the fourth", x.comes(0, 4), 48);
   }
@@ -230,6 +221,9 @@ final class InMindTest {
     x.gift(0, 5, 8);
     x.months(2);
     C.due("not BETTERED", x.bestStart(0, 1, 1), 7);
+    x.gift(1, 0, 8);
+    C.due("worth nothing", x.bestStart(1, 0, 0), 0);
+    C.due("worth nothing", x.bestStart(1, 0, 1), 0);
   }
 
   private static void promise19BestNext() {
@@ -253,6 +247,8 @@ final class InMindTest {
     x.nexts(0, 1);
     C.due("of 1: back to 0", x.bestNext(1, 14, 0), 0);
     C.due("of 1: back to 0", x.bestNext(1, 14, 1), 11);
+    C.due("no gifts, the least", lineOfPoor(3, 1).bestNext(0, 9, 0), 1);
+    C.due("no gifts", lineOfPoor(3, 1).bestNext(1, 9, 1), 0);
     C.due("nobody", x.bestNext(3, -1, 2), -1);
     C.due("nobody", x.bestNext(-1, 0, 0), -1);
     C.due("below", x.bestNext(0, -1, 2), -4);
@@ -287,6 +283,13 @@ final class InMindTest {
     x.nexts(0, 1);
     x.gift(0, 5, 99);
     C.due("too large for 99", x.doorsFor(0, 1, 60), -9);
+    x = lineOfPoor(6, 0);
+    x.gift(0, 5, 99);
+    C.due("all but his own", x.doorsFor(0, 5, 60), 62);
+    x.hands(0, 5);
+    x.nexts(5, 0);
+    C.due("the door of 0", x.doorsFor(0, 0, 1), 1);
+    C.due("that and four more", x.doorsFor(0, 4, 60), 31);
   }
 
   private static void promise21DoorWanted() {
@@ -328,6 +331,7 @@ final class InMindTest {
     // Without the POLISHER five times 5; without 2 once 5; without 0 none.
     C.due("the slow one", x.passedOver(5), 1);
     C.due("of several the least", x.passedOver(0), 0);
+    C.due("no gifts, the least", lineOfPoor(2, 0).passedOver(9), 0);
     // Without 0 the gift is with 1 from now on and with 2 behind 12: 1 and 5 more behind 13;
     // without 2 it is 5 more behind 1, with 1 till 13: 1 more.
     C.due("his gifts go to his NEXT", x.passedOver(13), 1);
@@ -498,6 +502,18 @@ final class InMindTest {
     x.gift(2, 5, 8);
     C.due("both have one", x.two(0, 1, 1), 11);
     C.due("the other adds nothing", x.two(0, 2, 1), 10);
+    x = lineOfPoor(2, 1);
+    x.nexts(1, 0);
+    x.gift(0, 99, 8);
+    for (int i = 0; i < 14; i++) {
+      x.months(60);
+    }
+    C.due("with 0", x.months(56), 995);
+    C.due("twice is more than once", x.two(0, 1, 2), 10);
+    C.due("with 1", x.months(1), 996);
+    C.due("999 by the other, if he adds twice", x.two(1, 0, 2), 1);
+    C.due("with 1", x.months(2), 998);
+    C.due("once is enough for 999", x.two(1, 0, 2), 0);
   }
 
   private static void fraction(
@@ -545,6 +561,7 @@ final class InMindTest {
     C.due("SISTER", x.added(2, 10), 5);
     C.due("SHARED", x.added(-1, 0), 0);
     C.due("SHARED", x.added(-1, 1), 1);
+    C.due("SHARED", x.added(-1, 4), 2);
     C.due("SHARED", x.added(-1, 10), 4);
     x.months(10);
     C.due("from now on", x.added(2, 0), 0);

@@ -68,6 +68,9 @@ final class LookedAtTest {
     x.friend(5, 0, 11);
     C.due("HASTY", x.hasty(0), 4);
     C.due("NARROW", x.hasty(1), 4);
+    x.doors(4, 50);
+    C.due("HASTY, whose DOOR is wide", x.hasty(0), 4);
+    C.due("NARROW, who WAITS", x.hasty(1), 1);
     C.due("no such what", x.hasty(2), -2);
     C.due("no such what", x.hasty(-1), -2);
   }
