@@ -46,7 +46,12 @@ final class AgainstOracleTest {
     PassedOnAndBetter x = new PassedOnAndBetter();
     Oracle oracle = new Oracle();
     boolean oftenRefused = draw(4) == 0;
+    boolean late = draw(5) == 0;
     for (int c = 0; c < CALLS; ) {
+      if (late && c >= 14) {
+        late = false;
+        c += manyMonths(run, x, oracle);
+      }
       if (draw(3) == 0 || c < 10) {
         String name = CHANGES[draw(c < 10 ? 6 : CHANGES.length)];
         if (name.equals("text")) {
@@ -62,6 +67,16 @@ final class AgainstOracleTest {
         c++;
       }
     }
+  }
+
+  /** To MONTH 900 or more, where much is as much as it may be: how many calls. */
+  private static int manyMonths(int run, PassedOnAndBetter x, Oracle oracle)
+      throws ReflectiveOperationException {
+    int turns = 15 + draw(2);
+    for (int i = 0; i < turns; i++) {
+      held(run, x, oracle, method("months"), new int[] {60});
+    }
+    return turns;
   }
 
   private static Method method(String name) {

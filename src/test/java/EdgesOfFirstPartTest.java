@@ -15,6 +15,7 @@ final class EdgesOfFirstPartTest {
 
   public static void main(String[] args) {
     promise01NobodyWhateverWasBefore();
+    promise01EachByItself();
     promise02Feed();
     promise04EachKindAndFigure();
     promise04Edges();
@@ -58,6 +59,31 @@ final class EdgesOfFirstPartTest {
     C.due("no FRIEND", x.friendOf(0, 0), -1);
     C.due("no GIFT", x.giftOf(0, 0), -1);
     C.due("nothing of a year", x.year(), 0);
+  }
+
+  /** What is done to one object is not seen of another. */
+  private static void promise01EachByItself() {
+    PassedOnAndBetter x = new PassedOnAndBetter();
+    PassedOnAndBetter y = new PassedOnAndBetter();
+    C.due("the one's", x.friend(5, 1, 40), 0);
+    C.due("the other's", y.count(0), 0);
+    C.due("the other's", y.friend(3, 0, 9), 0);
+    C.due("the one's", x.friendOf(0, 0), 5);
+    x.gift(0, 5, 8);
+    x.months(7);
+    x.feed('f');
+    x.row(1);
+    x.image();
+    x.friendOf(1, 0);
+    int[] whats = {1, 2, 3, 6, 7, 8, 11};
+    for (int what : whats) {
+      C.due("the other's count(" + what + ")", y.count(what), 0);
+    }
+    C.due("the other has no IMAGE", y.restore(), -3);
+    C.due("the other adds as he does", y.gift(0, 5, 8), 0);
+    C.due("the other's WORTH", y.months(3), 7);
+    C.due("the one's WORTH", x.count(3), 6);
+    C.due("the one's MONTH", x.count(2), 7);
   }
 
   private static void promise02Feed() {
