@@ -12,6 +12,7 @@ public final class PassedOnAndBetter {
   private static final int MOST_FIGURE = 9;
   private static final int LEAST_DOOR = 1;
   private static final int MOST_DOOR = 99;
+  private static final int FIRST_DOOR = 40;
   private static final int MOST_TOLD_WORTH = 99;
   private static final int LEAST_SIZE = 1;
   private static final int MOST_TOLD_SIZE = 99;
@@ -518,7 +519,7 @@ public final class PassedOnAndBetter {
         case SISTER: return figure;
         case HOLER: return -3;
         case JOINER: return 4;
-        case POOR: return Math.min(friendSwells, MOST_POOR_SWELLS);
+        case POOR: return friendSwells < MOST_POOR_SWELLS ? friendSwells : MOST_POOR_SWELLS;
         default: return friendSwells;
       }
     }
@@ -541,7 +542,7 @@ public final class PassedOnAndBetter {
     Friend() {
       kind = 0;
       figure = 0;
-      door = LEAST_DOOR;
+      door = FIRST_DOOR;
       next = NO_NEXT;
       waits = 1;
       adds = 0;

@@ -1,7 +1,9 @@
 import java.lang.reflect.Method;
+import java.lang.reflect.Modifier;
 import java.util.Arrays;
 import java.util.HashMap;
 import java.util.Map;
+import java.util.Set;
 
 /**
  * Calls by their names, and what they leave behind: of two objects made alike one gets the call and
@@ -20,7 +22,9 @@ final class Twins {
 
   static {
     for (Method m : PassedOnAndBetter.class.getDeclaredMethods()) {
-      METHODS.put(m.getName(), m);
+      if (Modifier.isPublic(m.getModifiers())) {
+        METHODS.put(m.getName(), m);
+      }
     }
   }
 
@@ -29,6 +33,11 @@ final class Twins {
 
   Twins(Checks checks) {
     this.checks = checks;
+  }
+
+  /** All calls of the face. */
+  static Set<String> names() {
+    return METHODS.keySet();
   }
 
   static int arguments(String name) {
